@@ -74,6 +74,7 @@ public final class TippedBarrow {
         ground.limit = plan.limit;
         ground.leaning = plan.leaning;
         present.begin(plan);
+        ground.survey();
         history.known = 0;
         told = 0;
         Arrays.fill(toldWays, 0);
@@ -736,15 +737,28 @@ public final class TippedBarrow {
         private static final int[] STEP_Y = {-1, 0, 1, 0};
 
         final int[] tilts;
+        // Bricks stay where they are till a yard is read anew, so neighbours are looked up once.
+        private final int[] neighbours = new int[CELLS * WAYS];
         int limit = FIRST_LIMIT;
         int leaning;
 
         Ground(int[] tilts) {
             this.tilts = tilts;
+            Arrays.fill(neighbours, -1);
+        }
+
+        void survey() {
+            for (int cell = 0; cell < CELLS; cell++) {
+                for (int way = 0; way < WAYS; way++) {
+                    int next = cellAt(cell % ACROSS + STEP_X[way], cell / ACROSS + STEP_Y[way]);
+                    neighbours[WAYS * cell + way] = isBrick(cell) || isBrick(next) ? -1 : next;
+                }
+            }
         }
 
         void become(Ground other) {
             System.arraycopy(other.tilts, 0, tilts, 0, CELLS);
+            System.arraycopy(other.neighbours, 0, neighbours, 0, CELLS * WAYS);
             limit = other.limit;
             leaning = other.leaning;
         }
@@ -755,11 +769,10 @@ public final class TippedBarrow {
 
         /** The CELL that a WAY leads to; -1: no CELL, or a brick. */
         int beyond(int cell, int way) {
-            if (isBrick(cell) || isNoWay(way)) {
+            if (cell < 0 || cell >= CELLS || way < 0 || way >= WAYS) {
                 return -1;
             }
-            int next = cellAt(cell % ACROSS + STEP_X[way], cell / ACROSS + STEP_Y[way]);
-            return isBrick(next) ? -1 : next;
+            return neighbours[WAYS * cell + way];
         }
 
         int waysFrom(int cell) {
@@ -828,8 +841,7 @@ public final class TippedBarrow {
                 }
                 for (int lean = -MOST_LEAN; lean <= MOST_LEAN; lean++) {
                     if (ground.verdict(lean) == 0) {
-                        settleByOnePush(cell, lean, 0);
-                        settleByOnePush(cell, lean, 1);
+                        lookOnePushAhead(cell, lean);
                     }
                 }
             }
@@ -855,14 +867,10 @@ public final class TippedBarrow {
             return spot < 0 || mover < 0 || mover > 1 ? -1 : 2 * spot + mover;
         }
 
-        private void settleByOnePush(int cell, int lean, int mover) {
-            int state = stateOf(cell, lean, mover);
-            if (state < 0) {
-                return;
-            }
+        private void lookOnePushAhead(int cell, int lean) {
             int ways = 0;
             int open = 0;
-            boolean wins = false;
+            int tips = 0;
             for (int way = 0; way < WAYS; way++) {
                 int next = ground.beyond(cell, way);
                 if (next < 0) {
@@ -873,13 +881,20 @@ public final class TippedBarrow {
                 if (verdict == 0) {
                     open++;
                 }
-                wins = wins || verdict == sideOf(mover);
+                // The sides, 1 and 2, are bits of their own.
+                tips |= verdict;
             }
-            openWays[state] = open;
-            if (wins) {
-                settle(state, sideOf(mover), 1);
-            } else if (open == 0) {
-                settle(state, sideOf(1 - mover), ways == 0 ? 0 : 1);
+            for (int mover = 0; mover < 2; mover++) {
+                int state = stateOf(cell, lean, mover);
+                if (state < 0) {
+                    continue;
+                }
+                openWays[state] = open;
+                if ((tips & sideOf(mover)) != 0) {
+                    settle(state, sideOf(mover), 1);
+                } else if (open == 0) {
+                    settle(state, sideOf(1 - mover), ways == 0 ? 0 : 1);
+                }
             }
         }
 
