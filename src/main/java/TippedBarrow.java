@@ -77,7 +77,6 @@ public final class TippedBarrow {
         ground.survey();
         history.known = 0;
         told = 0;
-        Arrays.fill(toldWays, 0);
         for (int i = 0; i < IMAGES; i++) {
             kept[i] = false;
         }
@@ -472,15 +471,17 @@ public final class TippedBarrow {
 
     /** Reads THE TEXT into a plan; where it stops, the TOKEN in hand is the one at FAULT. */
     private static final class Reader {
-        // Tokens that are letters are told by the letter itself, so these lie beside all letters.
+        // A TOKEN that is a letter is told by the letter itself, so these lie beside all letters.
         private static final int END = -1, NUMBER = -2, WRONG_NUMBER = -3;
+        private static final int MOST_TOKENS = MOST_LETTERS + 1;
 
         private final Text text;
+        private final int[] tokens = new int[MOST_TOKENS];
+        private final int[] numbers = new int[MOST_TOKENS];
+        private final int[] places = new int[MOST_TOKENS];
+        private int found;
+        private int inHand;
         private Plan plan;
-        private int token;
-        private int tokenPlace;
-        private int number;
-        private int nextPlace;
         private boolean limitTold;
         private boolean leaningTold;
 
@@ -494,21 +495,69 @@ public final class TippedBarrow {
             plan.empty();
             limitTold = false;
             leaningTold = false;
-            nextPlace = 0;
-            advance();
-            for (int items = 0; items <= MOST_LETTERS; items++) {
-                if (token == END) {
+            inHand = 0;
+            split();
+            for (int items = 0; items < MOST_TOKENS; items++) {
+                if (isInHand(END)) {
                     return items;
                 }
-                if (!readItem(items) || !readEnd()) {
+                if (!readItem(items) || !isInHand(';')) {
                     break;
                 }
+                inHand++;
             }
-            return -10 - tokenPlace;
+            return -10 - (inHand < found ? places[inHand] : text.length);
+        }
+
+        private void split() {
+            found = 0;
+            for (int place = 0; place < text.length; place++) {
+                int letter = text.letterAt(place);
+                if (isDigit(letter)) {
+                    addDigit(letter - '0', place);
+                } else if (letter != ' ') {
+                    addToken(letter, place, 0);
+                }
+            }
+            addToken(END, text.length, 0);
+        }
+
+        private void addToken(int token, int place, int number) {
+            if (found < MOST_TOKENS) {
+                tokens[found] = token;
+                places[found] = place;
+                numbers[found] = number;
+                found++;
+            }
+        }
+
+        private void addDigit(int digit, int place) {
+            int last = found - 1;
+            if (last < 0 || !isDigit(text.letterAt(place - 1))) {
+                addToken(NUMBER, place, digit);
+                return;
+            }
+            int ahead = numbers[last];
+            // Held at 100, so that a long row of digits can't run over.
+            numbers[last] = Math.min(100, 10 * ahead + digit);
+            if (ahead == 0 || numbers[last] > 99) {
+                tokens[last] = WRONG_NUMBER;
+            }
+        }
+
+        private static boolean isDigit(int letter) {
+            return letter >= '0' && letter <= '9';
+        }
+
+        private boolean isInHand(int token) {
+            return inHand < found && tokens[inHand] == token;
         }
 
         private boolean readItem(int itemsAhead) {
-            switch (token) {
+            if (inHand >= found) {
+                return false;
+            }
+            switch (tokens[inHand]) {
                 case 'w': return itemsAhead == 0 && readWide();
                 case 'r': return readRow();
                 case 'b': return readStart();
@@ -518,16 +567,8 @@ public final class TippedBarrow {
             }
         }
 
-        private boolean readEnd() {
-            if (token != ';') {
-                return false;
-            }
-            advance();
-            return true;
-        }
-
         private boolean readWide() {
-            advance();
+            inHand++;
             int wide = readNumber(1, ACROSS);
             if (wide < 0) {
                 return false;
@@ -540,7 +581,7 @@ public final class TippedBarrow {
             if (plan.wide == 0 || plan.start != NONE || plan.rows >= DOWN) {
                 return false;
             }
-            advance();
+            inHand++;
             for (int x = 0; x < plan.wide; x++) {
                 int cell = cellAt(x, plan.rows);
                 if (cell < 0 || !readCell(cell)) {
@@ -552,9 +593,9 @@ public final class TippedBarrow {
         }
 
         private boolean readCell(int cell) {
-            if (token == 'x') {
+            if (isInHand('x')) {
+                inHand++;
                 plan.tilts[cell] = BRICK;
-                advance();
                 return true;
             }
             int steps = readNumber(0, 2 * MOST_TILT);
@@ -569,15 +610,18 @@ public final class TippedBarrow {
             if (plan.start != NONE) {
                 return false;
             }
-            advance();
+            inHand++;
             int x = readNumber(0, plan.wide - 1);
             // A brick is a FAULT at Y, so it is looked for while that TOKEN is still in hand.
-            int cell = x < 0 || token != NUMBER || number >= plan.rows ? -1 : cellAt(x, number);
+            if (x < 0 || !isInHand(NUMBER) || numbers[inHand] >= plan.rows) {
+                return false;
+            }
+            int cell = cellAt(x, numbers[inHand]);
             if (cell < 0 || plan.tilts[cell] == BRICK) {
                 return false;
             }
+            inHand++;
             plan.start = cell;
-            advance();
             return true;
         }
 
@@ -586,7 +630,7 @@ public final class TippedBarrow {
                 return false;
             }
             limitTold = true;
-            advance();
+            inHand++;
             int limit = readNumber(2, MOST_LEAN + 1);
             if (limit < 0) {
                 return false;
@@ -600,7 +644,7 @@ public final class TippedBarrow {
                 return false;
             }
             leaningTold = true;
-            advance();
+            inHand++;
             int leaning = readNumber(0, LEANINGS - 1);
             if (leaning < 0) {
                 return false;
@@ -611,45 +655,12 @@ public final class TippedBarrow {
 
         /** The NUMBER in hand, and goes on; -1, and stays: it is none of low .. high. */
         private int readNumber(int low, int high) {
-            if (token != NUMBER || number < low || number > high) {
+            if (!isInHand(NUMBER) || numbers[inHand] < low || numbers[inHand] > high) {
                 return -1;
             }
-            int value = number;
-            advance();
-            return value;
-        }
-
-        private void advance() {
-            int place = nextPlace;
-            while (place < MOST_LETTERS && text.letterAt(place) == ' ') {
-                place++;
-            }
-            tokenPlace = place;
-            token = text.letterAt(place);
-            if (isDigit(token)) {
-                scanNumber();
-            } else if (token < 0) {
-                token = END;
-            } else {
-                nextPlace = place + 1;
-            }
-        }
-
-        private void scanNumber() {
-            boolean zeroAhead = token == '0';
-            int place = tokenPlace;
-            number = 0;
-            while (place < MOST_LETTERS && isDigit(text.letterAt(place))) {
-                number = Math.min(100, 10 * number + text.letterAt(place) - '0');
-                place++;
-            }
-            boolean wrong = number > 99 || zeroAhead && place > tokenPlace + 1;
-            token = wrong ? WRONG_NUMBER : NUMBER;
-            nextPlace = place;
-        }
-
-        private static boolean isDigit(int letter) {
-            return letter >= '0' && letter <= '9';
+            int number = numbers[inHand];
+            inHand++;
+            return number;
         }
     }
 

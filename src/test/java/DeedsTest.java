@@ -16,6 +16,7 @@ public final class DeedsTest {
         verdictsEndObjections();
         evened();
         undone();
+        leanUndone();
         tenAreKnown();
         refusedIsNotUndone();
         Due.end();
@@ -199,14 +200,23 @@ public final class DeedsTest {
         Due.is("undo() is not undone", b.undo(), TippedBarrow.STATE);
     }
 
+    private static void leanUndone() {
+        TippedBarrow b = Due.told("w2;r5 7;b0 0;k9;");
+        b.pushes(RIGHT);
+        b.keep(0);
+        b.pushes(LEFT);
+        Due.is("lean of two pushes", b.now(1), 4);
+        b.undo();
+        Due.is("lean of one push", b.now(1), 3);
+        b.pushes(LEFT);
+        b.pushes(RIGHT);
+        b.back(0);
+        Due.is("lean of the image", b.now(1), 3);
+        Due.is("cell of the image", b.now(0), 1);
+    }
+
     private static void tenAreKnown() {
-        TippedBarrow b = Due.told("w2;r4 4;b0 0;");
-        for (int t = -4; t <= 4; t++) {
-            b.evens(1, 0, t == 0 ? 4 : t);
-            b.pushes(1 + 2 * (b.now(0)));
-            b.undo();
-        }
-        b = Due.told("w2;r4 4;b0 0;k9;");
+        TippedBarrow b = Due.told("w2;r4 4;b0 0;k9;");
         for (int i = 0; i < 13; i++) {
             Due.is("deed " + i, b.evens(0, 0, i % 2 + 1), i == 0 ? 0 : 2 - i % 2);
             Due.is("known behind deed " + i, b.now(7), Math.min(10, i + 1));

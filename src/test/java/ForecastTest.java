@@ -13,6 +13,8 @@ public final class ForecastTest {
         soonest();
         odds();
         decides();
+        atTheFirstCellWithTheLeastLean();
+        theLargestYard();
         refused();
         nothingIsChanged();
         Due.end();
@@ -145,6 +147,44 @@ public final class ForecastTest {
         b.objects();
         Due.is("the right one", b.decides(), 1 << 5);
         Due.is("even cells decide nothing", Due.told("w3;r4 4 4;b1 0;").decides(), 0);
+    }
+
+    private static void atTheFirstCellWithTheLeastLean() {
+        TippedBarrow b = Due.told("w2;r0 0;b0 0;k9;");
+        fraction(b, 1, 2, 0, 1);
+        fraction(b, 1, 3, 1, 1);
+        outlook(b, "three pushes to the left", 1, 3, 1);
+        b.pushes(1);
+        b.pushes(3);
+        Due.is("lean -8 at limit 9", b.now(1), -8);
+        for (int i = 0; i < 2; i++) {
+            Due.is("would(1)", b.would(1), 1);
+            outlook(b, "one more push", 1, 1, 1);
+            row(b, 1, new int[] {1});
+            fraction(b, 1, 1, 1, 1);
+            Due.is("not to the right", b.soonest(2, -1), NONE);
+            b.objects();
+        }
+        b = Due.told("w2;r4 8;b0 0;k9;");
+        b.pushes(1);
+        b.pushes(3);
+        b.pushes(1);
+        Due.is("lean 8 at limit 9", b.now(1), 8);
+        row(b, 2, new int[] {3, 1});
+        outlook(b, "two more pushes", 2, 2, 3);
+    }
+
+    private static void theLargestYard() {
+        TippedBarrow b = Due.told("w5;r4 4 4 4 4;r4 4 4 4 4;r4 4 4 4 4;r4 4 4 4 5;b0 0;k2;");
+        Due.is("seven pushes to the corner, two more for the second", b.soonest(2, -1), 9);
+        row(b, 2, new int[] {1, 1, 1, 1, 2, 2, 2, 0, 2});
+        Due.is("no left", b.soonest(1, -1), NONE);
+        Due.is("far off", b.odds(2, 4, 0), 0);
+        b = Due.told("w5;r4 4 4 4 4;r4 4 4 4 4;r4 4 4 4 4;r4 4 4 4 6;b4 2;k2;");
+        outlook(b, "the plaintiff need not go there", 0, NONE, 0);
+        b.objects();
+        outlook(b, "the last cell", 2, 1, 2);
+        Due.is("it decides", b.decides(), 1 << 19);
     }
 
     private static void refused() {

@@ -94,6 +94,22 @@ public final class YardTest {
         Due.is("anew: tilt(0, 0)", b.tilt(0, 0), -3);
         Due.is("anew: tilt(2, 0)", b.tilt(2, 0), TippedBarrow.NO);
         Due.is("anew: a brick", b.tilt(1, 1), TippedBarrow.NO);
+        for (int i = 0; i < 3; i++) {
+            Due.type(b, "w2;r4 7;b1 0;k2;j1;");
+            Due.is("yard told by all items", b.yard(), 5);
+            b.pushes(3);
+            b.pushes(1);
+            b.pushes(3);
+            b.objects();
+            Due.type(b, i == 0 ? "w2;r1 2;b0 0;" : "");
+            Due.is("less is told", b.yard(), i == 0 ? 3 : 0);
+            Due.is("where it is", b.now(0), i == 0 ? 0 : TippedBarrow.NONE);
+            for (int what = 1; what < 8; what++) {
+                Due.is("as at first: now(" + what + ")", b.now(what), 0);
+            }
+            Due.is("as at first: limit", b.count(3), 5);
+            Due.is("as at first: leaning", b.count(4), 2);
+        }
         Due.is("an empty text", b.yard(), 0);
         Due.is("no cells", b.count(0), 0);
         Due.is("no rows", b.count(1), 0);
