@@ -699,7 +699,7 @@ public final class TippedBarrow {
         void tip(int cell, int side, int start) {
             int rut = tilts[cell] + (side == 1 ? -1 : 1);
             tilts[cell] = Math.max(-MOST_TILT, Math.min(MOST_TILT, rut));
-            verdicts[side - 1]++;
+            verdicts[side == 1 ? 0 : 1]++;
             Arrays.fill(objections, 0);
             barrow = start;
             lean = 0;
