@@ -1,10 +1,14 @@
 /** All promises, by many runs of calls that are put to the program and to the model alike. */
 public final class ModelTest {
-    private static final int RUNS = 400;
-    private static final int CALLS = 100;
+    private static final int RUNS = 1500;
+    /** An object is used for at most so many calls. */
+    private static final int MOST_CALLS = 512;
+    /** What a step, a yard read anew and the last comparison take at most. */
+    private static final int CALLS_OF_THE_END = 140;
     private static final int TEXTS = 20000;
 
     private static long seed = 20261118;
+    private static int calls;
 
     private ModelTest() {
     }
@@ -28,6 +32,12 @@ public final class ModelTest {
         return low + below(high - low + 1);
     }
 
+    /** One call of the program and of the model. */
+    private static void same(String call, long got, long want) {
+        calls++;
+        Due.is(call, got, want);
+    }
+
     // ---- texts, right ones and wrong ones
 
     private static void text(int i) {
@@ -38,9 +48,9 @@ public final class ModelTest {
         TippedBarrow barrow = new TippedBarrow();
         Model model = new Model();
         for (int k = 0; k < text.length(); k++) {
-            Due.is("type", barrow.type(text.charAt(k)), model.type(text.charAt(k)));
+            same("type", barrow.type(text.charAt(k)), model.type(text.charAt(k)));
         }
-        Due.is("yard() of '" + text + "'", barrow.yard(), model.yard());
+        same("yard() of '" + text + "'", barrow.yard(), model.yard());
         compareAll("behind '" + text + "'", barrow, model);
     }
 
@@ -93,9 +103,10 @@ public final class ModelTest {
     private static void run(int run) {
         TippedBarrow barrow = new TippedBarrow();
         Model model = new Model();
+        calls = 0;
         typeBoth(barrow, model);
-        for (int i = 0; i < CALLS; i++) {
-            String call = "run " + run + ", call " + i + ": ";
+        while (calls < MOST_CALLS - CALLS_OF_THE_END) {
+            String call = "run " + run + ", call " + calls + ": ";
             if (below(60) == 0) {
                 typeBoth(barrow, model);
             }
@@ -107,35 +118,35 @@ public final class ModelTest {
             } else {
                 other(call, barrow, model);
             }
-            compareAll(call, barrow, model);
+            compareSome(call, barrow, model);
         }
+        compareAll("run " + run + ", at its end: ", barrow, model);
+        same("calls beyond " + MOST_CALLS, Math.max(0, calls - MOST_CALLS), 0);
     }
 
     private static void typeBoth(TippedBarrow barrow, Model model) {
         String text = rightText();
-        barrow.clear();
-        model.clear();
+        same("clear()", barrow.clear(), model.clear());
         for (int k = 0; k < text.length(); k++) {
-            barrow.type(text.charAt(k));
-            model.type(text.charAt(k));
+            same("type()", barrow.type(text.charAt(k)), model.type(text.charAt(k)));
         }
-        Due.is("yard() of '" + text + "'", barrow.yard(), model.yard());
+        same("yard() of '" + text + "'", barrow.yard(), model.yard());
     }
 
     private static void deed(String call, TippedBarrow barrow, Model model) {
         int kind = below(12);
         if (kind < 8) {
             int way = between(-1, 4);
-            Due.is(call + "pushes(" + way + ")", barrow.pushes(way), model.pushes(way));
+            same(call + "pushes(" + way + ")", barrow.pushes(way), model.pushes(way));
         } else if (kind == 8) {
-            Due.is(call + "objects()", barrow.objects(), model.objects());
+            same(call + "objects()", barrow.objects(), model.objects());
         } else if (kind == 9) {
-            Due.is(call + "undo()", barrow.undo(), model.undo());
+            same(call + "undo()", barrow.undo(), model.undo());
         } else {
             int x = between(-1, 5);
             int y = between(-1, 4);
             int t = between(-5, 5);
-            Due.is(call + "evens(" + x + ", " + y + ", " + t + ")", barrow.evens(x, y, t), model.evens(x, y, t));
+            same(call + "evens(" + x + ", " + y + ", " + t + ")", barrow.evens(x, y, t), model.evens(x, y, t));
         }
     }
 
@@ -147,18 +158,18 @@ public final class ModelTest {
         int n = between(-1, 5);
         if (kind == 0) {
             int way = between(-1, 4);
-            Due.is(call + "would(" + way + ")", barrow.would(way), model.would(way));
+            same(call + "would(" + way + ")", barrow.would(way), model.would(way));
         } else if (kind == 1) {
-            Due.is(call + "game(" + what + ")", barrow.game(what), model.game(what));
+            same(call + "game(" + what + ")", barrow.game(what), model.game(what));
         } else if (kind == 2) {
-            Due.is(call + "advice()", barrow.advice(), model.advice());
+            same(call + "advice()", barrow.advice(), model.advice());
         } else if (kind == 3) {
-            Due.is(call + "soonest(" + side + ", " + k + ")", barrow.soonest(side, k), model.soonest(side, k));
+            same(call + "soonest(" + side + ", " + k + ")", barrow.soonest(side, k), model.soonest(side, k));
         } else if (kind == 4) {
-            Due.is(call + "odds(" + side + ", " + n + ", " + what + ")",
+            same(call + "odds(" + side + ", " + n + ", " + what + ")",
                 barrow.odds(side, n, what), model.odds(side, n, what));
         } else if (below(4) == 0) {
-            Due.is(call + "decides()", barrow.decides(), model.decides());
+            same(call + "decides()", barrow.decides(), model.decides());
         }
     }
 
@@ -166,39 +177,50 @@ public final class ModelTest {
         int kind = below(8);
         int any = below(10) == 0 ? 5 * below(2) - 1 : between(0, 3);
         if (kind < 3) {
-            Due.is(call + "tells(" + any + ")", barrow.tells(any), model.tells(any));
+            same(call + "tells(" + any + ")", barrow.tells(any), model.tells(any));
         } else if (kind == 3 && below(4) == 0) {
-            Due.is(call + "forget()", barrow.forget(), model.forget());
+            same(call + "forget()", barrow.forget(), model.forget());
         } else if (kind == 4) {
             int image = between(0, 1);
-            Due.is(call + "keep(" + image + ")", barrow.keep(image), model.keep(image));
+            same(call + "keep(" + image + ")", barrow.keep(image), model.keep(image));
         } else if (kind == 5) {
             int image = between(-1, 2);
-            Due.is(call + "back(" + image + ")", barrow.back(image), model.back(image));
+            same(call + "back(" + image + ")", barrow.back(image), model.back(image));
         } else if (kind == 6) {
             int x = between(-1, 5);
             int y = between(-1, 4);
             int body = between(-1, 6);
-            Due.is(call + "rate(" + body + ", " + x + ", " + y + ")", barrow.rate(body, x, y), model.rate(body, x, y));
+            same(call + "rate(" + body + ", " + x + ", " + y + ")", barrow.rate(body, x, y), model.rate(body, x, y));
         } else {
             int how = between(-1, 3);
-            Due.is(call + "leanings(" + how + ")", barrow.leanings(how), model.leanings(how));
+            same(call + "leanings(" + how + ")", barrow.leanings(how), model.leanings(how));
         }
+    }
+
+    private static void compareSome(String call, TippedBarrow barrow, Model model) {
+        for (int what = 0; what < 8; what++) {
+            same(call + "now(" + what + ")", barrow.now(what), model.now(what));
+        }
+        int x = below(5);
+        int y = below(4);
+        same(call + "tilt(" + x + ", " + y + ")", barrow.tilt(x, y), model.tilt(x, y));
+        same(call + "count(5)", barrow.count(5), model.count(5));
+        same(call + "trace()", barrow.trace(), model.trace());
     }
 
     private static void compareAll(String call, TippedBarrow barrow, Model model) {
         for (int what = -1; what <= 8; what++) {
-            Due.is(call + "now(" + what + ")", barrow.now(what), model.now(what));
-            Due.is(call + "count(" + what + ")", barrow.count(what), model.count(what));
+            same(call + "now(" + what + ")", barrow.now(what), model.now(what));
+            same(call + "count(" + what + ")", barrow.count(what), model.count(what));
         }
         for (int y = 0; y < 4; y++) {
             for (int x = 0; x < 5; x++) {
-                Due.is(call + "tilt(" + x + ", " + y + ")", barrow.tilt(x, y), model.tilt(x, y));
+                same(call + "tilt(" + x + ", " + y + ")", barrow.tilt(x, y), model.tilt(x, y));
             }
         }
         for (int how = 0; how <= 2; how++) {
-            Due.is(call + "leanings(" + how + ")", barrow.leanings(how), model.leanings(how));
+            same(call + "leanings(" + how + ")", barrow.leanings(how), model.leanings(how));
         }
-        Due.is(call + "trace()", barrow.trace(), model.trace());
+        same(call + "trace()", barrow.trace(), model.trace());
     }
 }
