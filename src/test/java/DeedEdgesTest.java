@@ -47,6 +47,7 @@ public final class DeedEdgesTest {
         tenAgainBehindUndo();
         refusedIsNotUndone();
         undoIsNotUndone();
+        theLastCall();
         Due.end();
     }
 
@@ -580,5 +581,16 @@ public final class DeedEdgesTest {
         Due.is("it is on START", b.now(0), 0);
         Due.is("the push may be done again", b.pushes(RIGHT), 0);
         Due.is("and is known alone", b.now(7), 1);
+    }
+
+    private static void theLastCall() {
+        Due.sentence("An object is used for at most 512 calls; VERDICTS (999 at most)");
+        String text = "w2;r4 6;b0 0;k2;";
+        TippedBarrow b = Due.told(text);
+        int pushes = 512 - text.length() - 1 - 1;
+        for (int i = 1; i <= pushes; i++) {
+            Due.is("VERDICT " + i, b.pushes(RIGHT), 2);
+        }
+        Due.is("the 512th call", b.now(4), 494);
     }
 }

@@ -137,6 +137,7 @@ public final class ForecastEdgesTest {
             Due.is("would(" + way + ")", b.would(way), BAD);
             Due.is("without START: would(" + way + "), BAD ahead of STATE", new TippedBarrow().would(way), BAD);
         }
+        Due.is("the first CELL", b.would(LEFT), 0);
         Due.is("no such CELL", b.would(UP), STATE);
         Due.is("a brick", b.would(RIGHT), STATE);
         Due.is("beyond the last ROW", Due.told("w1;r4;r4;b0 1;").would(DOWN), STATE);
@@ -167,6 +168,12 @@ public final class ForecastEdgesTest {
         outlook(b, "-12 by three", 1, 3, RIGHT);
         Due.pushed(b, RIGHT, LEFT);
         outlook(b, "-8 so far", 1, 1, RIGHT);
+        b = Due.told("w2;r0 4;b0 0;k9;");
+        outlook(b, "-12 by six", 1, 6, RIGHT);
+        Due.pushed(b, RIGHT, LEFT, RIGHT, LEFT);
+        outlook(b, "-8 on START", 1, 2, RIGHT);
+        b.pushes(RIGHT);
+        outlook(b, "-8 at the end", 1, 1, LEFT);
         b = Due.told("w2;r8 8;b0 0;k9;");
         outlook(b, "12 by three", 2, 3, RIGHT);
         Due.pushed(b, RIGHT, LEFT);
@@ -194,6 +201,12 @@ public final class ForecastEdgesTest {
         TippedBarrow b = Due.told("w3;r6 4 4;b1 0;k2;");
         b.objects();
         outlook(b, "the other one", 2, 1, LEFT);
+        // To the left and back and to the left; by way of the right two PUSHES more.
+        outlook(Due.told("w3;r3 4 4;b1 0;k2;"), "the plaintiff by three", 1, 3, LEFT);
+        b = Due.told("w3;r5 4 4;b1 0;k2;");
+        b.objects();
+        outlook(b, "the other one by three", 2, 3, LEFT);
+        outlook(Due.told("w4;r 3 4 5 6;r 2 x 4 6;r 4 4 3 5;b1 0;k4;j2;"), "the plaintiff by seven", 1, 7, LEFT);
     }
 
     private static void gameHoldsOut() {
@@ -228,6 +241,7 @@ public final class ForecastEdgesTest {
 
     private static void adviceRefused() {
         Due.sentence("advice. STATE: no START");
+        Due.is("START, and nothing was asked ahead", Due.told("w3;r4 4 2;b1 0;k2;").advice(), RIGHT);
         Due.is("a new object", new TippedBarrow().advice(), STATE);
         Due.is("CELLS, but no START", Due.told("w2;r4 2;k2;").advice(), STATE);
     }
@@ -316,6 +330,8 @@ public final class ForecastEdgesTest {
         row(Due.told("w2;r4 3;b0 0;k9;"), 1, 1, 3, 1, 3, 1, 3, 1, 3, 1, 3, 1, 3, 1, 3, 1, 3, 1);
         row(Due.told("w5;r4 4 4 4 4;r4 4 4 4 4;r4 4 4 4 4;r4 4 4 4 6;b0 0;k2;"), 2, 1, 1, 1, 1, 2, 2, 2);
         row(Due.told("w5;r2 4 4 4 4;r4 4 4 4 4;r4 4 4 4 4;r4 4 4 4 4;b4 3;k2;"), 1, 0, 0, 0, 3, 3, 3, 3);
+        row(Due.told("w5;r4 4 4 4 4;r4 4 4 4 4;r4 4 4 4 4;r2 4 4 4 4;b4 0;k2;"), 1, 2, 2, 2, 3, 3, 3, 3);
+        row(Due.told("w5;r4 4 4 4 4;r4 4 4 4 4;r4 4 4 4 4;r4 3 4 4 4;b4 0;k2;"), 1, 2, 2, 2, 3, 3, 3, 0, 2);
         // Far round, past bricks.
         row(Due.told("w5;r4 4 4 4 4;rxxxx4;r4 4 4 4 4;r2xxxx;b0 0;k2;"), 1, 1, 1, 1, 1, 2, 2, 3, 3, 3, 3, 2);
     }
@@ -436,6 +452,10 @@ public final class ForecastEdgesTest {
             odds(b, 1, n, 1, 1);
             odds(b, 2, n, 0, 1);
         }
+        b = Due.told("w2;r0 4;b0 0;k9;");
+        Due.pushed(b, RIGHT, LEFT, RIGHT, LEFT);
+        odds(b, 1, 1, 0, 1);
+        odds(b, 1, 2, 1, 1);
         // Half of it by the first PUSH, and half of the rest by each second one.
         b = Due.told("w3;r4 4 6;b1 0;k2;");
         odds(b, 2, 1, 1, 2);

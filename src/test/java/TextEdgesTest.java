@@ -211,10 +211,11 @@ public final class TextEdgesTest {
             TippedBarrow b = Due.told("w" + wide + ";");
             Due.is("count(0) of " + wide, b.count(0), wide);
         }
-        Due.fault("w0;", 1);
-        Due.fault("w6;", 1);
-        Due.fault("w9;", 1);
-        Due.fault("w10;", 1);
+        for (int wide = 0; wide <= 99; wide = wide == 0 ? 6 : wide + 1) {
+            Due.fault("w" + wide + ";", 1);
+        }
+        Due.fault("w;", 1);
+        Due.fault("wr;", 1);
     }
 
     private static void wideFirstOrNotTold() {
@@ -279,10 +280,11 @@ public final class TextEdgesTest {
             TippedBarrow b = Due.told("w1;r" + number + ";");
             Due.is("tilt(0, 0) of " + number, b.tilt(0, 0), number - 4);
         }
-        Due.fault("w1;r9;", 4);
+        for (int number = 9; number <= 99; number++) {
+            Due.fault("w1;r" + number + ";", 4);
+        }
         Due.fault("w2;r4 9;", 6);
         Due.fault("w2;r9 4;", 4);
-        Due.fault("w1;r10;", 4);
     }
 
     private static void cellNoNumber() {
@@ -301,7 +303,9 @@ public final class TextEdgesTest {
         for (int x = 0; x < 5; x++) {
             Due.is("START of x " + x, Due.told("w5;r4 4 4 4 4;b" + x + " 0;").count(2), x);
         }
-        Due.fault("w5;r4 4 4 4 4;b5 0;", 15);
+        for (int x = 5; x <= 99; x++) {
+            Due.fault("w5;r4 4 4 4 4;b" + x + " 0;", 15);
+        }
         Due.fault("w1;r4;b1 0;", 7);
         Due.fault("w4;r4 4 4 4;r4 4 4 4;b4 0;", 22);
         Due.fault("b0 0;", 1);
@@ -314,7 +318,9 @@ public final class TextEdgesTest {
         for (int y = 0; y < 4; y++) {
             Due.is("START of y " + y, Due.told("w1;r4;r4;r4;r4;b0 " + y + ";").count(2), 5 * y);
         }
-        Due.fault("w1;r4;r4;r4;r4;b0 4;", 18);
+        for (int y = 4; y <= 99; y++) {
+            Due.fault("w1;r4;r4;r4;r4;b0 " + y + ";", 18);
+        }
         Due.fault("w1;r4;b0 1;", 9);
         Due.fault("w1;r4;r4;r4;b0 3;", 15);
         Due.fault("w1;b0 0;", 6);
@@ -347,9 +353,9 @@ public final class TextEdgesTest {
             Due.is("count(3) of " + limit, Due.told("k" + limit + ";").count(3), limit);
         }
         Due.is("count(3) where it is not told", Due.told("w1;r4;").count(3), 5);
-        Due.fault("k0;", 1);
-        Due.fault("k1;", 1);
-        Due.fault("k10;", 1);
+        for (int limit = 0; limit <= 99; limit = limit == 1 ? 10 : limit + 1) {
+            Due.fault("k" + limit + ";", 1);
+        }
         Due.fault("k;", 1);
         Due.fault("kx;", 1);
     }
@@ -374,8 +380,9 @@ public final class TextEdgesTest {
         Due.is("count(4) where it is not told", b.count(4), 2);
         b.pushes(1);
         Due.is("LEAN where it is not told", b.now(1), 0);
-        Due.fault("j5;", 1);
-        Due.fault("j10;", 1);
+        for (int number = 5; number <= 99; number++) {
+            Due.fault("j" + number + ";", 1);
+        }
         Due.fault("j;", 1);
         Due.fault("jx;", 1);
     }
@@ -576,9 +583,8 @@ public final class TextEdgesTest {
         b.keep(0);
         b.keep(1);
         b.rate(0, 0, 0);
-        Due.pushed(b, 1);
-        b.pushes(2);
-        Due.nows(b, "ahead of it", 6, 1, 0, 0, 1, 0, 1, 6);
+        Due.pushed(b, 1, 2, 3);
+        Due.nows(b, "ahead of it", 5, 1, 1, 0, 1, 0, 1, 7);
         Due.type(b, text);
         Due.is("yard()", b.yard(), 5);
         Due.nows(b, "read anew", 1, 0, 0, 0, 0, 0, 0, 0);
