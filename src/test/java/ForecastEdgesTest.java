@@ -12,6 +12,8 @@ public final class ForecastEdgesTest {
     public static void main(String[] args) {
         nothingIsChanged();
         asThingsAreNow();
+        whateverWasAskedAhead();
+        to512Calls();
         would();
         wouldAtTheLimit();
         wouldRefused();
@@ -104,6 +106,43 @@ public final class ForecastEdgesTest {
         b.evens(1, 0, 0);
         b.pushes(RIGHT);
         Due.is("by the rut", b.would(RIGHT), 1);
+    }
+
+    private static void whateverWasAskedAhead() {
+        Due.sentence("(As things are NOW), whatever yard stood there ahead, and whatever was asked of it");
+        String[] texts = {"w5;r0 4 8 4 0;r4 4 4 4 4;r8 4 0 4 8;r4 4 4 4 4;b2 1;k2;", "w2;r4 5;b0 0;k9;j3;",
+            "w4;r3 4 5 6;r2x4 6;r4 4 3 5;b1 0;k4;", "w1;r4;b0 0;", "w3;r3 4 4;b1 0;k2;", "w3;r4 4 4;b1 0;k2;",
+            "w2;r5 3;r4 4;b0 1;k3;j1;", "w3;r6xx;r4 4 6;b1 1;k2;"};
+        TippedBarrow one = new TippedBarrow();
+        for (String text : texts) {
+            Due.type(one, text);
+            one.yard();
+            TippedBarrow fresh = Due.told(text);
+            for (int what = 0; what < 2; what++) {
+                Due.is("game(" + what + ") of " + text, one.game(what), Due.told(text).game(what));
+            }
+            Due.is("advice() of " + text, one.advice(), Due.told(text).advice());
+            Due.is("decides() of " + text, one.decides(), fresh.decides());
+            for (int side = 1; side <= 2; side++) {
+                Due.is("soonest(" + side + ", -1) of " + text, one.soonest(side, -1), fresh.soonest(side, -1));
+                Due.is("soonest(" + side + ", 0) of " + text, one.soonest(side, 0), fresh.soonest(side, 0));
+                Due.is("odds(" + side + ", 4, 0) of " + text, one.odds(side, 4, 0), fresh.odds(side, 4, 0));
+                Due.is("odds(" + side + ", 4, 1) of " + text, one.odds(side, 4, 1), fresh.odds(side, 4, 1));
+            }
+        }
+    }
+
+    private static void to512Calls() {
+        Due.sentence("An object is used for at most 512 calls");
+        String text = "w5;r3 4 5 6 3;r5 3 4 6 5;r4 4 3 5 3;r5 6 4 3 2;b2 1;k9;";
+        TippedBarrow b = Due.told(text);
+        int decides = b.decides();
+        int soonest = b.soonest(1, -1);
+        for (int calls = text.length() + 3; calls + 3 <= 512; calls += 3) {
+            Due.is("decides()", b.decides(), decides);
+            Due.is("soonest(1, -1)", b.soonest(1, -1), soonest);
+            Due.is("now(1)", b.now(1), 0);
+        }
     }
 
     // ---- WOULD
